@@ -610,10 +610,13 @@ public final class HypergraphDualizer {
             int chosen = 0;
             int fewest = MOST_VERTICES + 1;
             for (int e = 0; e < count; e++) {
-                int inEdge = edges[e] & candidates;
-                if (has(wanted, e) && Integer.bitCount(inEdge) < fewest) {
-                    fewest = Integer.bitCount(inEdge);
-                    chosen = inEdge;
+                if (has(wanted, e)) {
+                    int inEdge = edges[e] & candidates;
+                    int size = Integer.bitCount(inEdge);
+                    if (size < fewest) {
+                        fewest = size;
+                        chosen = inEdge;
+                    }
                 }
             }
             return chosen;
