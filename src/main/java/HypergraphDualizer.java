@@ -711,9 +711,11 @@ public final class HypergraphDualizer {
 
         /** One visit: the set, the candidates, the edges that the set hits once, and those that it hits. */
         private static void explore(Search run, int set, int candidates, int hitOnce, int hit, int depth) {
-            if (!run.beginsVisit(depth)) {
+            if (depth > MOST_VERTICES || run.visited >= MOST_VISITS) {
+                run.givenUp = true;
                 return;
             }
+            run.visited++;
             Hypergraph graph = run.graph;
             int missed = graph.allEdges() & ~hit;
             if (missed == 0) {
@@ -733,15 +735,6 @@ public final class HypergraphDualizer {
                     left |= 1 << v;
                 }
             }
-        }
-
-        private boolean beginsVisit(int depth) {
-            if (visited >= MOST_VISITS || depth > MOST_VERTICES) {
-                givenUp = true;
-                return false;
-            }
-            visited++;
-            return true;
         }
 
         private void keep(int set) {
