@@ -27,10 +27,14 @@ public final class GivenUpTest {
     public static void main(String[] args) throws IOException, ReflectiveOperationException {
         Class<?> sixVisits = compiledWithLimit(6);
         Class<?> fiveVisits = compiledWithLimit(5);
+        Class<?> oneVisit = compiledWithLimit(1);
         justEnoughVisits(new GivenUpTest(sixVisits));
         oneVisitTooMuch(new GivenUpTest(fiveVisits));
         errorsBeforeGivenUp(new GivenUpTest(fiveVisits));
         nothingIsChanged(new GivenUpTest(fiveVisits));
+        oneVisitTooMuchAfterTheLastAnswer(new GivenUpTest(sixVisits));
+        theFirstVisitCounts(new GivenUpTest(oneVisit));
+        givenUpBeforeFull(new GivenUpTest(sixVisits));
         Check.end();
     }
 
@@ -40,7 +44,8 @@ public final class GivenUpTest {
         Path directory = Files.createTempDirectory("given-up");
         Path file = directory.resolve("HypergraphDualizer.java");
         Files.writeString(file, source.replace(LIMIT, "MOST_VISITS = " + limit + ";"), StandardCharsets.UTF_8);
-        int result = ToolProvider.getSystemJavaCompiler().run(null, null, null, "-d", directory.toString(), file.toString());
+        int result = ToolProvider.getSystemJavaCompiler()
+            .run(null, null, null, "-d", directory.toString(), file.toString());
         Check.due("compiling with another limit", result, 0);
         URL[] places = {directory.toUri().toURL()};
         Class<?> compiled;
@@ -145,5 +150,34 @@ public final class GivenUpTest {
         x.due("undo", 2);
         x.due("answerCount", 2);
         x.due("answer", 2, 1);
+    }
+
+    /** Here the sixth visit finds the last answer, and there is a seventh. */
+    private static void oneVisitTooMuchAfterTheLastAnswer(GivenUpTest x) throws ReflectiveOperationException {
+        x.due("addEdge", 0, 3);
+        x.due("addEdge", 1, 12);
+        x.due("addEdge", 2, 5);
+        x.due("visits", GIVEN_UP);
+        x.due("answerCount", GIVEN_UP);
+        x.due("answer", GIVEN_UP, 0);
+        x.due("difference", GIVEN_UP);
+    }
+
+    private static void theFirstVisitCounts(GivenUpTest x) throws ReflectiveOperationException {
+        x.due("visits", 1);
+        x.due("answer", 0, 0);
+        x.due("addEdge", 0, 1);
+        x.due("visits", GIVEN_UP);
+        x.due("undo", 0);
+        x.due("visits", 1);
+    }
+
+    private static void givenUpBeforeFull(GivenUpTest x) throws ReflectiveOperationException {
+        x.due("reset", 6, 10);
+        x.due("addEdge", 0, 31);
+        x.due("addEdge", 1, 992);
+        x.due("dualize", GIVEN_UP);
+        x.due("value", 2, 3);
+        x.due("edge", 992, 1);
     }
 }

@@ -620,7 +620,8 @@ final class ReferenceDualizer {
                     return at;
                 }
                 int vertex = Integer.parseInt(part.substring(0, good));
-                boolean tooGreat = good < part.length() && part.charAt(0) != '0' && digit(part.charAt(good)) && good == 1;
+                boolean tooGreat = good == 1 && good < part.length() && part.charAt(0) != '0'
+                    && digit(part.charAt(good));
                 if (tooGreat) {
                     return at + 1;
                 }
