@@ -13,6 +13,8 @@ public final class EditBoundsTest {
     public static void main(String[] args) {
         p01SixVertices();
         p01WithoutEdges();
+        p01FirstCalls();
+        p01EachObjectIsItsOwn();
         p02From1To14();
         p02PreviousNumber();
         p02NoEdges();
@@ -65,6 +67,41 @@ public final class EditBoundsTest {
         Check.due("1 value(3)", x.value(3), 0);
         Check.due("1 undo()", x.undo(), NONE);
         Check.due("1 redo()", x.redo(), NONE);
+    }
+
+    /** Each of these is the first call of a new object. */
+    private static void p01FirstCalls() {
+        Check.due("1 weightOf(63)", new HypergraphDualizer().weightOf(63), 6);
+        Check.due("1 setWeight(5, 0)", new HypergraphDualizer().setWeight(5, 0), 1);
+        Check.due("1 answerCount()", new HypergraphDualizer().answerCount(), 1);
+        Check.due("1 answer(0)", new HypergraphDualizer().answer(0), 0);
+        Check.due("1 delay(0)", new HypergraphDualizer().delay(0), 1);
+        Check.due("1 visits()", new HypergraphDualizer().visits(), 1);
+        Check.due("1 next(-1)", new HypergraphDualizer().next(-1), 0);
+        Check.due("1 lightest(0)", new HypergraphDualizer().lightest(0), 0);
+        Check.due("1 hittingSets(-1)", new HypergraphDualizer().hittingSets(-1), 64);
+        Check.dueExactly("1 chance()", new HypergraphDualizer().chance(), 1f);
+        Check.due("1 diagramSize(0)", new HypergraphDualizer().diagramSize(0), 0);
+        Check.due("1 diagramSize(2)", new HypergraphDualizer().diagramSize(2), 6);
+        Check.due("1 isSelfDual()", new HypergraphDualizer().isSelfDual(), 0);
+        Check.due("1 isIntersecting()", new HypergraphDualizer().isIntersecting(), 1);
+        Check.due("1 clearText()", new HypergraphDualizer().clearText(), 0);
+        Check.due("1 readEdges()", new HypergraphDualizer().readEdges(), -100);
+        Check.due("1 minimize()", new HypergraphDualizer().minimize(), 0);
+    }
+
+    private static void p01EachObjectIsItsOwn() {
+        HypergraphDualizer x = new HypergraphDualizer();
+        HypergraphDualizer y = new HypergraphDualizer();
+        x.addEdge(3);
+        x.setWeight(0, 50);
+        x.type('1');
+        Check.due("1 value(1) of another object", y.value(1), 0);
+        Check.due("1 weightOf(1) of another object", y.weightOf(1), 1);
+        Check.due("1 clearText() of another object", y.clearText(), 0);
+        Check.due("1 undo() of another object", y.undo(), NONE);
+        Check.due("1 answerCount() of this one", x.answerCount(), 2);
+        Check.due("1 answerCount() of another object", y.answerCount(), 1);
     }
 
     /** "n, 1 to 14"; "BAD_VALUE". */

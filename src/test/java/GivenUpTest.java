@@ -10,7 +10,7 @@ import javax.tools.ToolProvider;
 
 /**
  * What is answered when the search is given up. No hypergraph is known whose search has more than 4000 visits (the
- * longest that a hunt found has 1170), so the class is compiled here once more, with a lower limit in its place.
+ * longest that a hunt found has 1365), so the class is compiled here once more, with a lower limit in its place.
  */
 public final class GivenUpTest {
     private static final String LIMIT = "MOST_VISITS = 4000;";

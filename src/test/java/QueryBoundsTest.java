@@ -18,6 +18,7 @@ public final class QueryBoundsTest {
         p11NoSuchEdge();
         p12From0To5();
         p12WithoutEdges();
+        p12TheSmallestEdge();
         p12EachGreatest();
         p13NoSuchVertex();
         p13InNoneOrAll();
@@ -50,6 +51,7 @@ public final class QueryBoundsTest {
         p25From0ToN();
         p26NoSuchVertex();
         p26InNoneOrAll();
+        p26FewerAnswersThanBefore();
         p27NegativePlace();
         p27NotSoMany();
         p27EqualWeights();
@@ -60,6 +62,8 @@ public final class QueryBoundsTest {
         p30LeastAndGreatest();
         p31From0To2();
         p31LeastAndGreatest();
+        p31OneFamilyAfterAnother();
+        p31GreatDiagrams();
         p32BadValueThenNoSuchVertex();
         p32SumsToTheSize();
         p33OnlyMinimalEdgesCount();
@@ -113,11 +117,34 @@ public final class QueryBoundsTest {
         }
     }
 
-    private static void p12EachGreatest() {
+    /** "4 for the size of the smallest edge", wherever it stands. */
+    private static void p12TheSmallestEdge() {
+        Check.due("12 value(4) of the only edge", Given.with(5, 3).value(4), 2);
+        Check.due("12 value(4), the first is the smallest", Given.with(5, 1, 6, 7).value(4), 1);
+        Check.due("12 value(4), the last is the smallest", Given.with(5, 7, 6, 1).value(4), 1);
+        Check.due("12 value(4), the last of 24 is the smallest", withSmallestLast().value(4), 1);
+    }
+
+    private static HypergraphDualizer withSmallestLast() {
+        HypergraphDualizer x = Given.with(6);
+        for (int set = 63; set > 63 - 46; set -= 2) {
+            x.addEdge(set);
+        }
+        x.addEdge(1);
+        return x;
+    }
+
+    /** Each of the last two of 14 vertices with each of the others: 24 edges that are minimal. */
+    private static HypergraphDualizer withFan() {
         HypergraphDualizer x = Given.with(14);
         for (int i = 0; i < 24; i++) {
             x.addEdge(1 << i % 12 | 1 << 12 + i / 12);
         }
+        return x;
+    }
+
+    private static void p12EachGreatest() {
+        HypergraphDualizer x = withFan();
         int[] values = {14, 24, 24, 16, 2, 16383};
         for (int what = 0; what <= 5; what++) {
             Check.due("12 value(" + what + ") of 24 minimal edges", x.value(what), values[what]);
@@ -457,6 +484,20 @@ public final class QueryBoundsTest {
         Check.due("26 answersWith(0) without edges", Given.with(14).answersWith(0), 0);
     }
 
+    /** What an earlier search has found is not counted when there are fewer answers. */
+    private static void p26FewerAnswersThanBefore() {
+        HypergraphDualizer x = Given.with(14, 16383);
+        Check.due("26 answersOfSize(1)", x.answersOfSize(1), 14);
+        for (int v = 13; v >= 0; v--) {
+            x.contract(v);
+            Check.due("26 answersWith(" + v + ") when it is in no edge", x.answersWith(v), 0);
+            Check.due("26 answersOfSize(1) of fewer", x.answersOfSize(1), v);
+            Check.due("26 answersOfSize(0) of fewer", x.answersOfSize(0), v == 0 ? 1 : 0);
+            Check.due("26 next(2^v) of fewer", x.next(v == 0 ? 0 : 1 << v - 1), NONE);
+            Check.due("26 lightest() of fewer", x.lightest(Math.max(v, 1)), NONE);
+        }
+    }
+
     /** "BAD_VALUE if k is negative". */
     private static void p27NegativePlace() {
         for (int wrong : new int[] {-1, -2, -4000, MIN}) {
@@ -548,6 +589,18 @@ public final class QueryBoundsTest {
             choices = choices * (14 - size) / (size + 1);
         }
         Check.due("29 hittingSets(-1) without edges", x.hittingSets(-1), 16384);
+        x.addEdge(16383);
+        choices = 14;
+        for (int size = 1; size <= 14; size++) {
+            Check.due("29 hittingSets(" + size + ") of one edge", x.hittingSets(size), choices);
+            choices = choices * (14 - size) / (size + 1);
+        }
+        Check.due("29 hittingSets(0) of one edge", x.hittingSets(0), 0);
+        Check.due("29 hittingSets(-1) of one edge", x.hittingSets(-1), 16383);
+        x.undo();
+        Check.due("29 hittingSets(0) after undo", x.hittingSets(0), 1);
+        Check.due("29 hittingSets(14) after undo", x.hittingSets(14), 1);
+        Check.due("29 hittingSets(-1) after undo", x.hittingSets(-1), 16384);
         Check.due("29 hittingSets(-1), one alone", Given.withSingles(14).hittingSets(-1), 1);
         Check.due("29 hittingSets(13), one alone", Given.withSingles(14).hittingSets(13), 0);
         Check.due("29 hittingSets(0) of one edge", Given.with(14, 16383).hittingSets(0), 0);
@@ -595,6 +648,52 @@ public final class QueryBoundsTest {
         }
     }
 
+    /** The greatest diagrams that a hunt has found, and the longest search. */
+    private static void p31GreatDiagrams() {
+        int[][] great = {
+            {8168, 6132, 13299, 4086, 12784, 8679, 9184, 12281, 15352, 9714, 3063, 11233, 16383, 5617, 2549, 5098, 2044,
+                10234, 14333, 1007, 6651, 7166, 8169, 16360},
+            {2640, 14536, 9320, 3139, 1824, 12952, 6786, 8884, 11273, 4306, 10266, 12548, 5388, 5825, 6188, 5265, 10628,
+                289, 285, 1555, 5158, 12325, 654, 8778},
+            {9366, 6524, 5636, 14600, 11266, 12864, 11008, 13292, 13440, 7200, 3600, 6664, 3278, 4716, 8527, 9061,
+                14500, 4963, 2842, 1522, 15045, 9729, 14276, 1685},
+            {6416, 4513, 9600, 12329, 177, 588, 3146, 3590, 3652, 10632, 3624, 5392, 12432, 46, 3142, 610, 15, 12325,
+                15393, 10628, 579, 3593, 8497, 3148}};
+        int[] sizes = {159, 510, 1212};
+        for (int i = 0; i < great.length; i++) {
+            HypergraphDualizer x = Given.with(14, great[i]);
+            ReferenceDualizer same = new ReferenceDualizer();
+            same.reset(14);
+            for (int edge : great[i]) {
+                same.addEdge(edge);
+            }
+            for (int what = 0; what <= 2; what++) {
+                int due = i == what ? sizes[i] : same.diagramSize(what);
+                Check.due("31 diagramSize(" + what + ") of a great diagram", x.diagramSize(what), due);
+            }
+            Check.due("31 visits() of a long search", x.visits(), i == 3 ? 1365 : same.allVisits());
+            Check.due("31 answerCount() of a long search", x.answerCount(), same.answerCount());
+        }
+    }
+
+    /** The empty set, which is in one family alone, does not stay in the next diagram. */
+    private static void p31OneFamilyAfterAnother() {
+        HypergraphDualizer x = Given.with(4);
+        Check.due("31 diagramSize(2), with the empty set", x.diagramSize(2), 4);
+        Check.due("31 hittingSets(0), with the empty set", x.hittingSets(0), 1);
+        x.addEdge(8);
+        x.addEdge(9);
+        Check.due("31 diagramSize(0), without the empty set", x.diagramSize(0), 2);
+        Check.due("31 diagramSize(2), without the empty set", x.diagramSize(2), 4);
+        Check.due("31 diagramSize(0) after another", x.diagramSize(0), 2);
+        Check.due("31 diagramSize(1) after another", x.diagramSize(1), 1);
+        x.reset(4);
+        Check.due("31 diagramSize(1), the empty set alone", x.diagramSize(1), 0);
+        x.addEdge(8);
+        x.addEdge(9);
+        Check.due("31 diagramSize(0) after the empty set alone", x.diagramSize(0), 2);
+    }
+
     /** "BAD_VALUE; NO_SUCH_VERTEX; GIVEN_UP (1)", in this order. */
     private static void p32BadValueThenNoSuchVertex() {
         HypergraphDualizer x = five();
@@ -636,6 +735,8 @@ public final class QueryBoundsTest {
         Check.due("33 a triangle without one edge", x.isSelfDual(), 0);
         Check.due("33 all sets of three of five",
             Given.with(5, 7, 11, 13, 14, 19, 21, 22, 25, 26, 28).isSelfDual(), 1);
+        Check.due("33 24 edges", Given.withFirstSets(24).isSelfDual(), 0);
+        Check.due("33 24 edges, the last alone minimal", withSmallestLast().isSelfDual(), 1);
         Check.due("33 all single vertices", Given.withSingles(14).isSelfDual(), 0);
         Check.due("33 the answers and one edge more that is minimal", Given.with(4, 1, 2).isSelfDual(), 0);
     }
@@ -646,6 +747,9 @@ public final class QueryBoundsTest {
         Check.due("34 a minimal edge is the least", Given.withSingles(14).difference(), 1);
         Check.due("34 an answer is the least", Given.with(14, 16383).difference(), 1);
         Check.due("34 the greatest of all", Given.with(14, 8192, 16383).difference(), NONE);
+        Check.due("34 24 edges", Given.withFirstSets(24).difference(), 1);
+        Check.due("34 24 edges, the last alone minimal", withSmallestLast().difference(), NONE);
+        Check.due("34 24 edges, an answer that is none of them", withFan().difference(), 4095);
         Check.due("34 equal sets are left out", five().difference(), 9);
         // The answers are {0, 1} and {2}; {0, 2} and {1, 2} are edges, and {0, 1, 2} is an edge that is not minimal.
         Check.due("34 an edge that is not minimal", Given.with(3, 7, 5, 6).difference(), 3);

@@ -278,7 +278,13 @@ public final class TextBoundsTest {
         reading(Given.withFirstSets(23), "3,4;0,3,4", -104);
         reading(Given.withFirstSets(23), "3,4;0,3,4;1,3,4", -104);
         reading(Given.withFirstSets(23), "0,1,2,3,4;0,3,4", -110);
+        reading(Given.withFirstSets(23), "3,4;", -104);
+        reading(Given.withFirstSets(23), "3,4;;0,3,4", -104);
+        reading(Given.withFirstSets(23), "3,4;x", -104);
+        reading(Given.withFirstSets(23), "3,4x", -103);
         reading(Given.withFirstSets(24), "0,3,4", -100);
+        reading(Given.withFirstSets(24), "", -100);
+        reading(Given.withFirstSets(24), ";", -100);
         reading(Given.withFirstSets(22), "3,4;0,3,4", 2);
         reading(Given.withFirstSets(22), "3,4;0,3,4;1,3,4", -110);
         StringBuilder many = new StringBuilder("0");
